@@ -87,7 +87,7 @@ public final class WholeDesk {
         testRegister(a);
         testRegister(m);
         testRegister(to);
-        testModulus(m);
+        testModulus(registers[m]);
         keep(reckoner.residue(registers[a], registers[m]), to);
     }
 
@@ -129,7 +129,7 @@ public final class WholeDesk {
         testRegister(a);
         testRegister(m);
         testRegister(to);
-        testModulus(m);
+        testModulus(registers[m]);
         keep(reckoner.inverted(registers[a], registers[m]), to);
     }
 
@@ -138,7 +138,7 @@ public final class WholeDesk {
         testRegister(e);
         testRegister(m);
         testRegister(to);
-        testModulus(m);
+        testModulus(registers[m]);
         keep(reckoner.raisedModulo(registers[a], registers[e], registers[m]), to);
     }
 
@@ -217,8 +217,8 @@ public final class WholeDesk {
         }
     }
 
-    private void testModulus(int m) {
-        if (registers[m].sign() <= 0) {
+    private static void testModulus(Whole m) {
+        if (m.sign() <= 0) {
             throw new ArithmeticException("the modulus is not above 0");
         }
     }
@@ -667,7 +667,6 @@ public final class WholeDesk {
             rest.divideOut(raised(guess, n - 1), better);
             better.stretch(Math.max(better.count, guess.count) + 1);
             better.mix(guess, n - 1, 0);
-            better.trim();
             better.shrink(n);
         }
 
@@ -811,7 +810,7 @@ public final class WholeDesk {
             answer.become(0);
             int bits = (int) Math.min(n, LIMIT_BITS);
             int limbs = bits / Whole.BITS;
-            answer.stretch(Math.max(a.count - limbs, 0) + 1);
+            answer.stretch(a.count - limbs);
             for (int i = 0; i < answer.count; i++) {
                 answer.limbs[i] = a.limbShifted(i + limbs + 1, Whole.BITS - bits % Whole.BITS);
             }
