@@ -1,15 +1,7 @@
 import java.math.BigInteger;
 
 /** For each promise of the document: ordinary inputs, the edges that it names, and wrong inputs. */
-public final class PromisesTest {
-    private static final Class<IllegalArgumentException> ARGUMENT = IllegalArgumentException.class;
-    private static final Class<IllegalStateException> STATE = IllegalStateException.class;
-    private static final Class<ArithmeticException> ARITHMETIC = ArithmeticException.class;
-    private static final int[] NO_REGISTERS = {-1, 10, Integer.MIN_VALUE, Integer.MAX_VALUE};
-    private static final int[] NO_BASES = {1, 37, 0, -2, Integer.MIN_VALUE, Integer.MAX_VALUE};
-    /** The greatest number of a register. */
-    private static final BigInteger GREATEST = two(2048).subtract(BigInteger.ONE);
-
+public final class PromisesTest extends Numbers {
     private PromisesTest() {
     }
 
@@ -39,14 +31,6 @@ public final class PromisesTest {
         registersFirst();
         throwingChangesNothing();
         Check.end("PromisesTest");
-    }
-
-    private static BigInteger two(int exponent) {
-        return BigInteger.ONE.shiftLeft(exponent);
-    }
-
-    private static BigInteger big(long value) {
-        return BigInteger.valueOf(value);
     }
 
     /** A desk with these numbers in its registers 0, 1, 2 .. and 77 in register 9. */
@@ -154,9 +138,8 @@ public final class PromisesTest {
         reads("+zZ", 36, big(35 * 36 + 35));
         reads("-fF", 16, big(-255));
         reads("9223372036854775808", 10, two(63));
-        String digits = "0123456789abcdefghijklmnopqrstuvwxyz";
         for (int base = 2; base <= 36; base++) {
-            String all = digits.substring(0, base);
+            String all = DIGITS.substring(0, base);
             for (int length = 1; length < 60; length += 7) {
                 String some = (all + all + all + all).substring(1, Math.min(1 + length, 4 * base));
                 reads(some, base, new BigInteger(some, base));
@@ -164,8 +147,8 @@ public final class PromisesTest {
             }
             reads("0".repeat(99) + GREATEST.toString(base).substring(0, 380), base,
                     new BigInteger(GREATEST.toString(base).substring(0, 380), base));
-            readsNot("1" + (base < 36 ? digits.charAt(base) : '{'), base);
-            readsNot("1" + (base < 36 ? digits.toUpperCase().charAt(base) : '['), base);
+            readsNot("1" + (base < 36 ? DIGITS.charAt(base) : '{'), base);
+            readsNot("1" + (base < 36 ? DIGITS.toUpperCase().charAt(base) : '['), base);
         }
         for (String text : new String[] {"", "-", "+", "--1", "+-1", "1-", "1+", " 1", "1 ", "1.0", "1_0", "0x1",
             "1/", "1:", "1@", "1`", "\u0000", "1\u0000", "\u00b9", "1\u00ff", "\u00b1" + "1", "\u0080"}) {
