@@ -33,7 +33,7 @@ final class Scene {
 
     /** Leaves large numbers in all that the desk may use again, so that nothing rests on its being new. */
     private void use() {
-        desk.calls += 13;
+        desk.calls += 13 + registers.length;
         desk.desk.put(0, -3);
         desk.desk.power(0, 1200, 1);
         desk.desk.power(0, 1201, 2);
@@ -47,6 +47,9 @@ final class Scene {
         desk.desk.inverse(5, 1, 9);
         desk.desk.powerModulo(5, 8, 1, 9);
         desk.desk.written(4, 2);
+        for (int i = 0; i < registers.length; i++) {
+            desk.desk.shift(4, 0, i);
+        }
     }
 
     /** These numbers in the registers 0, 1, 2 .., and others in those left. */
@@ -129,6 +132,10 @@ final class Scene {
         textIs(what, dueText);
         for (int i = 0; i < registers.length; i++) {
             Check.same(what + ": register " + i, desk.get(i), registers[i]);
+            desk.calls += 2;
+            // A 0 with a sign, or with zeros before it, could not be told from 0 by its text.
+            Check.answers(what + ": sign of register " + i, desk.desk.told(i, 1), registers[i].signum());
+            Check.answers(what + ": length of register " + i, desk.desk.told(i, 2), registers[i].bitLength());
         }
         draftIs(what, dueDraft);
         Check.that(what + ": the test makes too many calls", desk.calls <= Desk.CALLS);

@@ -143,7 +143,7 @@ final class TermBoundaries extends Numbers {
     private static void bitsOfNumbersBelowZero() {
         Document.says("Terms", "BIT i of an integer a is 1 if a divided by 2 to the i, rounded to the next integer that is not greater, "
                 + "is odd, else 0 (so the bits of numbers below 0 are 1 from some place on).");
-        for (int k : new int[] {1, 27, 28, 29, 56, 63, 64, 2046, 2047}) {
+        for (int k : new int[] {1, 27, 28, 29, 55, 56, 57, 63, 64, 83, 84, 85, 2046, 2047}) {
             // 2 to the k, and its neighbours, on both sides of 0: bits k - 1, k and k + 1, and far up.
             bits(near(two(k), -1), k, 1, 0, 0, 0);
             bits(two(k), k, 0, 1, 0, 0);
@@ -163,6 +163,8 @@ final class TermBoundaries extends Numbers {
 
     private static void bits(BigInteger a, int k, int under, int at, int above, int farUp) {
         Desk desk = new Desk();
+        // Nothing of a larger number that was there before may show.
+        desk.set(0, GREATEST);
         desk.set(0, a);
         Check.answers("bit " + (k - 1) + " of " + a, desk.desk.bit(0, k - 1), under);
         Check.answers("bit " + k + " of " + a, desk.desk.bit(0, k), at);
